@@ -99,6 +99,8 @@ public final class BlocksTest {
         Check.tell(x, 1, "leave 0 if free 0 and free 1 and not free 2;leave 1 if free 0 and free 1 and free 2 and not free 2;leave 2 if free 0 and not free 0;");
         told("a lie of each kind", x, 0, 3, 3, new int[] {10, 11, 22, 0});
         none("one lie too few", x, 0, 3, 2);
+        Check.tell(x, 1, "leave 0 if free 2;leave 1 if not free 2;leave 2 if free 2 and not free 2;");
+        none("a SENSOR that lies can't lie otherwise", x, 0, 5, 3);
     }
 
     private static void oneBlock() {
@@ -142,6 +144,10 @@ public final class BlocksTest {
         Check.tell(x, 1, "leave 0 if (free 1 or free 2) and not not free 2;");
         Check.due("( )", x.leaves(5, 0), 0);
         Check.due("not not", x.leaves(3, 0), 1);
+        CoasterDay z = Check.on(SIX);
+        Check.tell(z, 1, "leave 0 if free 1;leave 5 if not free 0 and not free 5;");
+        Check.due("where nothing is free", z.leaves(63, 0), 0);
+        Check.due("where nothing is free", z.leaves(63, 5), 1);
         Check.due("BLOCK", x.leaves(8, 3), -2);
         Check.due("BLOCK", x.leaves(1, -1), -2);
         Check.due("bits", x.leaves(8, 0), -3);

@@ -135,6 +135,14 @@ public final class DispatchTest {
         Check.due("off by two, from below", z.fits(-1), 12);
         z.log(0, 1, 1, 2);
         Check.due("none fits both", z.fits(-1), 0);
+        // By 20 LOSS is 25 with drag 50 and 51 alone: SPEED 0 of push 25.
+        CoasterDay w = Check.on("high 5 5;push 25;");
+        w.log(0, 20, 11, 0);
+        int[] worn = {401, 411, 500, 502, 503, 504};
+        Check.due("40 or 41 and 10 for the worn one, or 50", w.fits(-1), worn.length);
+        for (int i = 0; i < worn.length; i++) {
+            Check.due("fits(" + i + ")", w.fits(i), worn[i]);
+        }
         Check.due("nor a first one", z.fits(0), -1);
     }
 
@@ -161,6 +169,17 @@ public final class DispatchTest {
         CoasterDay z = Check.on("high 5 5 5;push 30;drag 0;");
         z.log(0, 10, fresh, 0);
         Check.due("they tell otherwise", z.worn(), -1);
+        CoasterDay last = Check.on("high 5 5;push 25;");
+        last.log(0, 20, 11, 0);
+        last.log(1, 20, 11, 0);
+        Check.due("drag 50, none or 2 or 3", last.worn(), -1);
+        last.log(2, 20, 11, 0);
+        last.log(3, 20, 11, 0);
+        Check.due("drag 50, none", last.worn(), 9);
+        CoasterDay first = Check.on("high 5 5;push 10;");
+        first.log(3, 10, 11, 0);
+        first.log(1, 10, 3, 0);
+        Check.due("drag 0 with TRAIN 3 worn alone", first.worn(), 3);
     }
 
     private static int ticks(int first, int second) {

@@ -39,6 +39,9 @@ public final class MoreTest {
         Check.due("LOSS 5 by 20 a STEP", Check.on("high 5 5 5 5;").restart(20, 0), 15);
         Check.due("by none", Check.on("high 0 50 99 99 99;").restart(1, 0), -1);
         Check.due("999", Check.on("high 0 99;drag 9;").restart(10, 0), 999);
+        Check.due("1000 would be needed", Check.on("high 0 99;drag 1;").restart(1, 0), -1);
+        Check.due("a second chain", Check.on("high 5 0 99 0;drag 0;chain 0 to 1 speed 1;chain 1 to 2 speed 7;").restart(1, 1), 0);
+        Check.due("a second chain that is too slow", Check.on("high 5 0 50 99;drag 0;chain 0 to 1 speed 999;chain 1 to 2 speed 7;").restart(1, 1), -1);
         Check.due("999 isn't enough", Check.on("high 0 99;drag 50;").restart(1, 0), -1);
         Check.due("a chain", Check.on("high 0 99 0;chain 0 to 1 speed 1;").restart(20, 0), 0);
         // From 1 with too little it rolls back to the chain, which lifts it over the top.
@@ -58,6 +61,10 @@ public final class MoreTest {
         Check.due("not so many", x.valley(2), -1);
         Check.due("below", x.valley(-2), -1);
         Check.due("none", Check.on("high 0 1;").valley(-1), 0);
+        Check.due("the only one between", Check.on("high 1 0 1;").valley(0), 1);
+        Check.due("neither the first nor the last one", Check.on("high 0 1 0;").valley(-1), 0);
+        Check.tell(x, 0, "high 5 9 7;");
+        Check.due("what was behind the last POINT is gone", x.valley(-1), 0);
     }
 
     private static void group() {
@@ -116,6 +123,7 @@ public final class MoreTest {
         Check.due("behind one: 4 and 3", x.cross(1, 4, 1, 1, 3, 999, 1), 1);
         Check.due("POINT 0 at once", x.cross(1, 0, 10, 5, 0, 10, 0), 5);
         Check.due("by every 1 all", x.cross(1, 0, 10, 999, 0, 1, 0), 10);
+        Check.due("the bounds", x.cross(20, 0, 10, 999, 999, 999, 99), 9);
         CoasterDay y = Check.on("high 10 0 10 20;drag 0;push 50;");
         Check.due("it first comes there", y.cross(1, 1, 1, 1, 1, 999, 0), 1);
         Check.due("it doesn't come there", y.cross(1, 3, 1, 1, 0, 1, 0), -1);
@@ -183,6 +191,20 @@ public final class MoreTest {
         x.stay(1, 1, 6, 0);
         Check.due("half of them isn't more than half", x.led(0, 1), 0);
         Check.due("half of them isn't more than half", x.led(5, 1), 0);
+        CoasterDay y = Check.on("high 0 0 0;push 20;drag 0;block 1;block 2;");
+        y.stay(2, 1, 0, 5);
+        y.stay(2, 1, 0, 6);
+        y.stay(3, 1, 0, 5);
+        y.stay(0, 2, 0, 5);
+        y.stay(3, 0, 0, 5);
+        Check.due("no COLD: LOSS 10 twice", y.led(2, 1), 3);
+        Check.due("LOSS 12 twice", y.led(1, 1), 1);
+        Check.due("two of five are its TRAIN's", y.led(0, 1), 3);
+        Check.due("one of five is in its BLOCK", y.led(3, 1), 0);
+        y.stay(2, 0, 0, 0);
+        y.stay(2, 0, 0, 0);
+        Check.due("four of seven are its TRAIN's", y.led(0, 1), 2);
+        Check.due("three of seven are in its BLOCK", y.led(2, 1), 0);
         Check.due("STAY", x.led(6, 0), -2);
         Check.due("STAY", x.led(-1, 1), -2);
         Check.due("WEIGHT", x.led(0, 0), -3);
@@ -221,6 +243,16 @@ public final class MoreTest {
         Check.due("less by one between", x.quiet(), 20);
         x.stay(1, 1, 5021, 0);
         Check.due("of another TRAIN", x.quiet(), 21);
+        CoasterDay y = Check.on(DIP);
+        y.stay(3, 0, 0, 0);
+        y.stay(3, 0, 9999, 0);
+        Check.due("from the first to the last HOUR", y.quiet(), 9999);
+        y.stay(3, 0, 1, 0);
+        Check.due("less 1", y.quiet(), 9998);
+        CoasterDay z = Check.on(DIP);
+        z.stay(3, 0, 8, 0);
+        z.stay(3, 0, 7, 0);
+        Check.due("1", z.quiet(), 1);
     }
 
     private static void grow() {
@@ -265,6 +297,16 @@ public final class MoreTest {
         Check.due("1 by 5 to 9 tenths, 0 by 10 to 14", y.growths(-1), 10);
         Check.due("the first", y.growths(0), 10);
         Check.due("the sixth", y.growths(5), 105);
+        CoasterDay z = Check.on("high 5 5;push 25;");
+        z.grow(20, 11, 0);
+        Check.due("drag 50 alone", z.growths(-1), 21);
+        Check.due("the last of all", z.growths(20), 5020);
+        CoasterDay w = Check.on("high 5 5;push 25;");
+        w.grow(20, 13, 1);
+        Check.due("none of 12 to 14", w.growths(-1), 0);
+        Check.tell(w, 0, "high 5 5;push 25;");
+        w.grow(20, 12, 3);
+        Check.due("of 9 to 15 those of LOSS 24 and 25: drag 48 to 50", w.growths(-1), 63);
     }
 
     private static void foretold() {
@@ -282,6 +324,13 @@ public final class MoreTest {
         Check.due("DAY 2: none is OUT", x.foretold(2, true), -1);
         x.grow(1, 4, 0);
         Check.due("none FITS", x.foretold(0, true), -1);
+        CoasterDay y = Check.on("high 5 5;push 25;");
+        y.grow(20, 1, 99);
+        Check.due("the greatest on DAY 0: drag 50", y.foretold(0, true), 11);
+        Check.due("the least on DAY 0: drag 0", y.foretold(0, false), 1 + 40 / 29);
+        CoasterDay z = Check.on("high 5 5;push 99;");
+        z.grow(20, 1 + 40 / 103, 0);
+        Check.due("DAY 99 by 20 tenths: 50 and 198, LOSS 124; one less is OUT", z.foretold(99, true), 11);
         Check.due("DAY", x.foretold(100, true), -3);
         Check.due("DAY", x.foretold(-1, false), -3);
     }
@@ -319,6 +368,12 @@ public final class MoreTest {
         Check.due("at 10: 4 or 5", x.crew(10, 1), 16);
         Check.due("at 11: 0 and 1", x.crew(11, 1), 3);
         Check.due("at 12", x.crew(12, 1), -1);
+        CoasterDay y = Check.on(DIP);
+        y.operator(1, 4, 4);
+        y.operator(2, 4, 4);
+        Check.due("all that are there", y.crew(4, 1), 3);
+        Check.due("an hour ahead", y.crew(3, 1), -1);
+        Check.due("an hour behind", y.crew(5, 1), -1);
         Check.due("what", x.crew(24, 2), -2);
         Check.due("what", x.crew(0, -1), -2);
         Check.due("HOUR", x.crew(24, 0), -3);
@@ -380,7 +435,10 @@ public final class MoreTest {
         Check.promise("46 stretched");
         CoasterDay x = Check.on("high 0 10 0;chain 0 to 1 speed 3;");
         Check.due("no STRETCH", x.stretched(20, 1), 7);
-        x.lift(0, 20, 50);
+        Check.due("no WIND, no COLD: LOSS 100", x.stretched(1, 0), 0);
+        x.lift(0, 1, 999);
+        Check.due("STRETCH 999 is no SLIP", x.stretched(20, 1), 7);
+        x.lift(0, 1, 1);
         int[] due = {0, 8, 2, 0, 97, 97};
         for (int what = 0; what < due.length; what++) {
             Check.due("SLIP 1: what " + what, x.stretched(20, what), due[what]);

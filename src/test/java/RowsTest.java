@@ -82,6 +82,12 @@ public final class RowsTest {
         Check.due("far above", x.storm(0, 1), 2);
         x.store(1, 0, 0);
         Check.due("no numbers", x.storm(1, 1), -1);
+        CoasterDay y = Check.on("high 0 0;push 20;drag 0;");
+        y.store(0, 0, 2);
+        y.write(0, 0, 10);
+        Check.due("without COLD", y.storm(0, 1), -1);
+        y.write(0, 1, 11);
+        Check.due("11", y.storm(0, 1), 1);
     }
 
     private static void keep() {
@@ -108,7 +114,7 @@ public final class RowsTest {
         y.store(0, 1, 3);
         y.write(0, 2, 99);
         Check.due("how many", y.keep(0, 1), 3);
-        Check.tell(y, 0, DIP);
+        Check.tell(y, 0, "high 0 0;push 1;drag 0;");
         Check.due("13 at POINT 0", y.storm(0, 1), 0);
         y.write(0, 0, 0);
         Check.due("13 at POINT 1", y.storm(0, 1), 1);

@@ -67,6 +67,16 @@ public final class StairsTest {
         y.stair(1);
         Check.due("by height", y.worst(0), 20);
         Check.due("BEST", y.worst(1), 0);
+        y.stair(0);
+        Check.due("BEST where each POINT has one", y.worst(1), 0);
+        CoasterDay z = Check.on("high 0 50 99 99;");
+        z.stair(3);
+        Check.due("BEST: 0 or 1 leave 11, the first such", z.worst(1), 0);
+        CoasterDay w = Check.on("high 50 50 0 50 50;");
+        w.stair(4);
+        Check.due("BEST: the deep POINT", w.worst(1), 2);
+        CoasterDay v = Check.on("high 5 5 5;");
+        Check.due("BEST: the one between", v.worst(1), 1);
         Check.due("what", x.worst(2), -2);
         Check.due("what", x.worst(-1), -2);
     }
@@ -107,6 +117,12 @@ public final class StairsTest {
         Check.due("bit 11", x.cover(2048 + 4, 0), 101);
         Check.due("bit 11", x.cover(2048 + 4, 1), 66);
         Check.due("a bit of none", x.cover(8, 1), -1);
+        Check.due("all bits", x.cover(4095, 0), -1);
+        CoasterDay y = new CoasterDay();
+        y.test(1, 9);
+        y.test(4095, 8);
+        Check.due("by cost, not by what it covers", y.cover(1, 1), 2);
+        Check.due("all bits", y.cover(4095, 0), 8);
         Check.due("what", x.cover(4096, 2), -2);
         Check.due("what", x.cover(1, -1), -2);
         Check.due("set", x.cover(4096, 1), -3);

@@ -111,6 +111,17 @@ public final class TextTest {
         Check.faulty(x, 0, "high 100 0002;", 3, 5);
         Check.faulty(x, 0, "high 1 2;high é", 1, 14);
         Check.faulty(x, 0, "high 1 2;\u0000", 1, 9);
+        Check.feed(x, "high 1 2;dragx 51;");
+        Check.due("a word that n cuts", x.text(0, 13), -12);
+        Check.due("its end", x.fault(1), 13);
+        Check.feed(x, "high 1 2;drag 51;");
+        Check.due("an N that n cuts", x.text(0, 15), -12);
+        Check.due("its end", x.fault(1), 15);
+        Check.faulty(x, 0, "z", 2, 0);
+        Check.faulty(x, 0, "{", 1, 0);
+        Check.faulty(x, 0, "`", 1, 0);
+        Check.faulty(x, 0, "/", 1, 0);
+        Check.faulty(x, 0, ":", 1, 0);
         Check.faulty(x, 0, "hig 1 2;", 2, 0);
         Check.faulty(x, 0, "highs 1 2;", 2, 0);
         Check.faulty(x, 0, "high ;", 2, 5);
@@ -146,6 +157,10 @@ public final class TextTest {
         Check.faulty(x, 0, "high 1 2;dog 2 to 3;", 3, 13);
         Check.faulty(x, 0, "high 1 2 3;dog 2 to 1;", 3, 20);
         Check.faulty(x, 0, "high 1 2;dog 0 to 9;", 3, 18);
+        Check.faulty(x, 0, "high 1 2;dog 0 to 2;", 3, 18);
+        Check.faulty(x, 0, "high 1 2;dog 0 to 0;", 3, 18);
+        Check.faulty(x, 0, "high 1 2;dog 1 to 1;", 3, 18);
+        Check.due("push 0, drag 0, speed 0", Check.tell(x, 0, "high 1 2;push 0;drag 0;chain 0 to 1 speed 0;"), 2);
         Check.due("told ahead, by two lines", Check.tell(x, 0, "high 1;high 2;block 1;high 3;block 2;"), 3);
     }
 

@@ -150,6 +150,7 @@ public final class TrackTest {
         Check.due("11 to 20 isn't", x.odds(1, 1, 0, 20, 0), 10);
         Check.due("by 2 (cut) it is to 20", x.odds(2, 2, 0, 99, 0), 79);
         Check.due("both", x.odds(1, 2, 0, 99, 0), 168);
+        Check.due("the bounds", x.odds(1, 20, 99, 99, 0), 9);
         Check.due("COLD", x.odds(1, 1, 0, 0, 21), 1);
         Check.due("COLD", x.odds(1, 1, 0, 0, 20), 0);
         Check.due("all", x.odds(1, 20, 0, 99, 99), 895);
