@@ -104,67 +104,45 @@ public final class CoasterDay {
     }
 
     public int run(int weight, int wind, int cold, int what) {
-        if (outside(what, 0, 5)) {
-            return NO_SUCH;
-        }
-        if (badWeight(weight) || outside(wind, 0, 99) || outside(cold, 0, 99)) {
-            return BAD_NUMBER;
-        }
-        if (noTrack()) {
-            return NOT_NOW;
+        int refused = refusal(outside(what, 0, 5), badWeight(weight) || outside(wind, 0, 99) || outside(cold, 0, 99));
+        if (refused != 0) {
+            return refused;
         }
         ride.pass(day.track, lossIn(weight, wind, cold));
         return ride.tell(what);
     }
 
     public int speed(int weight, int point) {
-        if (noSuchPoint(point)) {
-            return NO_SUCH;
-        }
-        if (badWeight(weight)) {
-            return BAD_NUMBER;
-        }
-        if (noTrack()) {
-            return NOT_NOW;
+        int refused = refusal(noSuchPoint(point), badWeight(weight));
+        if (refused != 0) {
+            return refused;
         }
         passInCalm(weight);
         return ride.firstPaceAt(point);
     }
 
     public int point(int point, int what) {
-        if (noSuchPoint(point) || outside(what, 0, 1)) {
-            return NO_SUCH;
-        }
-        if (noTrack()) {
-            return NOT_NOW;
+        int refused = refusal(noSuchPoint(point) || outside(what, 0, 1), false);
+        if (refused != 0) {
+            return refused;
         }
         return what == 0 ? day.track.height(point) : day.track.blockOf(point);
     }
 
     public int felt(int weight, int point, int seat) {
         boolean atAnEnd = !noTrack() && (point == 0 || point == day.track.points() - 1);
-        if (noSuchPoint(point) || atAnEnd || badSeat(seat)) {
-            return NO_SUCH;
-        }
-        if (badWeight(weight)) {
-            return BAD_NUMBER;
-        }
-        if (noTrack()) {
-            return NOT_NOW;
+        int refused = refusal(noSuchPoint(point) || atAnEnd || badSeat(seat), badWeight(weight));
+        if (refused != 0) {
+            return refused;
         }
         passInCalm(weight);
         return feltNow(point, seat);
     }
 
     public int feels(int weight, int seat, boolean most) {
-        if (badSeat(seat)) {
-            return NO_SUCH;
-        }
-        if (badWeight(weight)) {
-            return BAD_NUMBER;
-        }
-        if (noTrack()) {
-            return NOT_NOW;
+        int refused = refusal(badSeat(seat), badWeight(weight));
+        if (refused != 0) {
+            return refused;
         }
         passInCalm(weight);
         int best = NOT_FELT;
@@ -190,14 +168,11 @@ public final class CoasterDay {
     }
 
     public int odds(int from, int to, int calm, int storm, int cold) {
-        if (badWeight(from) || badWeight(to) || from > to) {
-            return BAD_NUMBER;
-        }
-        if (outside(calm, 0, 99) || outside(storm, 0, 99) || calm > storm || outside(cold, 0, 99)) {
-            return BAD_NUMBER;
-        }
-        if (noTrack()) {
-            return NOT_NOW;
+        boolean badWeights = badWeight(from) || badWeight(to) || from > to;
+        boolean badWinds = outside(calm, 0, 99) || outside(storm, 0, 99) || calm > storm;
+        int refused = refusal(false, badWeights || badWinds || outside(cold, 0, 99));
+        if (refused != 0) {
+            return refused;
         }
         int notOut = 0;
         for (int weight = from; weight <= to; weight++) {
@@ -213,14 +188,9 @@ public final class CoasterDay {
     // ---- blocks
 
     public int row(int what, int trains, int lies, int i) {
-        if (outside(what, 0, 1)) {
-            return NO_SUCH;
-        }
-        if (badBlockBits(trains) || outside(lies, 0, 3)) {
-            return BAD_NUMBER;
-        }
-        if (noTrack()) {
-            return NOT_NOW;
+        int refused = refusal(outside(what, 0, 1), badBlockBits(trains) || outside(lies, 0, 3));
+        if (refused != 0) {
+            return refused;
         }
         search.prepare(day.rules, day.track.blocks(), lies);
         if (!search.find(what == 0, trains)) {
@@ -230,14 +200,9 @@ public final class CoasterDay {
     }
 
     public int leaves(int trains, int block) {
-        if (noSuchBlock(block)) {
-            return NO_SUCH;
-        }
-        if (badBlockBits(trains)) {
-            return BAD_NUMBER;
-        }
-        if (noTrack()) {
-            return NOT_NOW;
+        int refused = refusal(noSuchBlock(block), badBlockBits(trains));
+        if (refused != 0) {
+            return refused;
         }
         search.prepare(day.rules, day.track.blocks(), 0);
         return search.mayLeave(trains, block) ? 1 : 0;
@@ -246,14 +211,9 @@ public final class CoasterDay {
     // ---- dispatch, log
 
     public int time(int weight, int block) {
-        if (noSuchBlock(block)) {
-            return NO_SUCH;
-        }
-        if (badWeight(weight)) {
-            return BAD_NUMBER;
-        }
-        if (noTrack()) {
-            return NOT_NOW;
+        int refused = refusal(noSuchBlock(block), badWeight(weight));
+        if (refused != 0) {
+            return refused;
         }
         if (!takeTimes(weight) || outside(block, 0, blockTimes.length - 1)) {
             return NONE;
@@ -275,14 +235,10 @@ public final class CoasterDay {
     }
 
     public int holds(int weight, int n, int beat, int which, int late) {
-        if (which != NONE && (which < 0 || which >= n)) {
-            return NO_SUCH;
-        }
-        if (badWeight(weight) || badTrainCount(n) || badBeat(beat) || outside(late, 0, 999)) {
-            return BAD_NUMBER;
-        }
-        if (noTrack()) {
-            return NOT_NOW;
+        int refused = refusal(which != NONE && (which < 0 || which >= n),
+            badWeight(weight) || badTrainCount(n) || badBeat(beat) || outside(late, 0, 999));
+        if (refused != 0) {
+            return refused;
         }
         return takeTimes(weight) ? holdsNow(n, beat, which, late) : NONE;
     }
@@ -308,11 +264,9 @@ public final class CoasterDay {
     }
 
     public int beat(int weight, int n, int late, int most) {
-        if (badBeatQuestion(weight, n, late, most)) {
-            return BAD_NUMBER;
-        }
-        if (noTrack()) {
-            return NOT_NOW;
+        int refused = refusal(false, badBeatQuestion(weight, n, late, most));
+        if (refused != 0) {
+            return refused;
         }
         return leastBeat(weight, n, late, most);
     }
@@ -343,17 +297,12 @@ public final class CoasterDay {
     }
 
     public int log(int train, int weight, int ticks, int off) {
-        if (badLoggedTrain(train)) {
-            return NO_SUCH;
-        }
-        if (badWeight(weight) || badTicks(ticks) || outside(off, 0, 99)) {
-            return BAD_NUMBER;
+        int refused = refusal(badLoggedTrain(train), badWeight(weight) || badTicks(ticks) || outside(off, 0, 99));
+        if (refused != 0) {
+            return refused;
         }
         if (day.logged.isFull()) {
             return FULL;
-        }
-        if (noTrack()) {
-            return NOT_NOW;
         }
         return day.logged.add(train, weight, ticks, off) + 1;
     }
@@ -418,27 +367,20 @@ public final class CoasterDay {
     // ---- stairs, tests, parts
 
     public int stair(int point) {
-        if (noSuchPoint(point)) {
-            return NO_SUCH;
-        }
-        if (day.stairs.find(0, point) != NONE) {
-            return BAD_NUMBER;
+        int refused = refusal(noSuchPoint(point), day.stairs.find(0, point) != NONE);
+        if (refused != 0) {
+            return refused;
         }
         if (day.stairs.isFull()) {
             return FULL;
-        }
-        if (noTrack()) {
-            return NOT_NOW;
         }
         return day.stairs.add(point, 0, 0, 0) + 1;
     }
 
     public int walk(int point, int what) {
-        if (noSuchPoint(point) || outside(what, 0, 1)) {
-            return NO_SUCH;
-        }
-        if (noTrack()) {
-            return NOT_NOW;
+        int refused = refusal(noSuchPoint(point) || outside(what, 0, 1), false);
+        if (refused != 0) {
+            return refused;
         }
         if (day.stairs.size() == 0) {
             return NONE;
@@ -472,11 +414,9 @@ public final class CoasterDay {
     }
 
     public int worst(int what) {
-        if (outside(what, 0, 1)) {
-            return NO_SUCH;
-        }
-        if (noTrack()) {
-            return NOT_NOW;
+        int refused = refusal(outside(what, 0, 1), false);
+        if (refused != 0) {
+            return refused;
         }
         return what == 0 ? greatestWalk(NONE) : bestStair();
     }
@@ -597,14 +537,9 @@ public final class CoasterDay {
     // ---- more of the day
 
     public int restart(int weight, int point) {
-        if (noSuchPoint(point)) {
-            return NO_SUCH;
-        }
-        if (badWeight(weight)) {
-            return BAD_NUMBER;
-        }
-        if (noTrack()) {
-            return NOT_NOW;
+        int refused = refusal(noSuchPoint(point), badWeight(weight));
+        if (refused != 0) {
+            return refused;
         }
         int loss = lossIn(weight, 0, 0);
         for (int pace = 0; pace <= 999; pace++) {
@@ -659,14 +594,10 @@ public final class CoasterDay {
     }
 
     public int cross(int weight, int point, int n, int beat, int first, int every, int near) {
-        if (noSuchPoint(point)) {
-            return NO_SUCH;
-        }
-        if (badWeight(weight) || badTrainCount(n) || badBeat(beat) || badOthers(first, every, near)) {
-            return BAD_NUMBER;
-        }
-        if (noTrack()) {
-            return NOT_NOW;
+        int refused = refusal(noSuchPoint(point),
+            badWeight(weight) || badTrainCount(n) || badBeat(beat) || badOthers(first, every, near));
+        if (refused != 0) {
+            return refused;
         }
         passInCalm(weight);
         int comes = ride.firstTicksAt(point);
@@ -695,14 +626,10 @@ public final class CoasterDay {
     }
 
     public int clear(int weight, int point, int n, int first, int every, int near) {
-        if (noSuchPoint(point)) {
-            return NO_SUCH;
-        }
-        if (badWeight(weight) || badTrainCount(n) || badOthers(first, every, near)) {
-            return BAD_NUMBER;
-        }
-        if (noTrack()) {
-            return NOT_NOW;
+        int refused = refusal(noSuchPoint(point),
+            badWeight(weight) || badTrainCount(n) || badOthers(first, every, near));
+        if (refused != 0) {
+            return refused;
         }
         passInCalm(weight);
         int comes = ride.firstTicksAt(point);
@@ -719,30 +646,21 @@ public final class CoasterDay {
     }
 
     public int stay(int train, int block, int hour, int wind) {
-        if (badLoggedTrain(train) || noSuchBlock(block)) {
-            return NO_SUCH;
-        }
-        if (outside(hour, 0, 9999) || outside(wind, 0, 99)) {
-            return BAD_NUMBER;
+        int refused = refusal(badLoggedTrain(train) || noSuchBlock(block),
+            outside(hour, 0, 9999) || outside(wind, 0, 99));
+        if (refused != 0) {
+            return refused;
         }
         if (day.stays.isFull()) {
             return FULL;
-        }
-        if (noTrack()) {
-            return NOT_NOW;
         }
         return day.stays.add(train, block, hour, wind);
     }
 
     public int led(int stay, int weight) {
-        if (outside(stay, 0, day.stays.size() - 1)) {
-            return NO_SUCH;
-        }
-        if (badWeight(weight)) {
-            return BAD_NUMBER;
-        }
-        if (noTrack()) {
-            return NOT_NOW;
+        int refused = refusal(outside(stay, 0, day.stays.size() - 1), badWeight(weight));
+        if (refused != 0) {
+            return refused;
         }
         return ledTo(stay, weight);
     }
@@ -759,14 +677,9 @@ public final class CoasterDay {
     }
 
     public int leads(int to, int weight) {
-        if (outside(to, 0, 3)) {
-            return NO_SUCH;
-        }
-        if (badWeight(weight)) {
-            return BAD_NUMBER;
-        }
-        if (noTrack()) {
-            return NOT_NOW;
+        int refused = refusal(outside(to, 0, 3), badWeight(weight));
+        if (refused != 0) {
+            return refused;
         }
         int found = 0;
         for (int k = 0; k < day.stays.size(); k++) {
@@ -805,14 +718,12 @@ public final class CoasterDay {
     public int grow(int weight, int ticks, int off) {
         Table entries = day.entries;
         boolean isOther = entries.size() > 0 && entries.get(0, 0) != weight;
-        if (badWeight(weight) || isOther || badTicks(ticks) || outside(off, 0, 99)) {
-            return BAD_NUMBER;
+        int refused = refusal(false, badWeight(weight) || isOther || badTicks(ticks) || outside(off, 0, 99));
+        if (refused != 0) {
+            return refused;
         }
         if (entries.isFull()) {
             return FULL;
-        }
-        if (noTrack()) {
-            return NOT_NOW;
         }
         return entries.add(weight, ticks, off, 0) + 1;
     }
@@ -881,14 +792,9 @@ public final class CoasterDay {
     }
 
     public int crew(int hour, int what) {
-        if (outside(what, 0, 1)) {
-            return NO_SUCH;
-        }
-        if (badHour(hour)) {
-            return BAD_NUMBER;
-        }
-        if (noTrack()) {
-            return NOT_NOW;
+        int refused = refusal(outside(what, 0, 1), badHour(hour));
+        if (refused != 0) {
+            return refused;
         }
         int best = smallestCrew(hour);
         if (best == NONE) {
@@ -961,25 +867,18 @@ public final class CoasterDay {
     }
 
     public int stretched(int weight, int what) {
-        if (outside(what, 0, 5)) {
-            return NO_SUCH;
-        }
-        if (badWeight(weight)) {
-            return BAD_NUMBER;
-        }
-        if (noTrack()) {
-            return NOT_NOW;
+        int refused = refusal(outside(what, 0, 5), badWeight(weight));
+        if (refused != 0) {
+            return refused;
         }
         ride.passSlipping(day.track, lossIn(weight, 0, 0), day.stretch(0) / 1000, day.stretch(1) / 1000);
         return ride.tell(what);
     }
 
     public int riders(int weight, int n, int late, int most, int seats) {
-        if (badBeatQuestion(weight, n, late, most) || badSeats(seats)) {
-            return BAD_NUMBER;
-        }
-        if (noTrack()) {
-            return NOT_NOW;
+        int refused = refusal(false, badBeatQuestion(weight, n, late, most) || badSeats(seats));
+        if (refused != 0) {
+            return refused;
         }
         int beat = leastBeat(weight, n, late, most);
         return beat < 1 ? NONE : seats * 1000 / beat;
@@ -1015,11 +914,9 @@ public final class CoasterDay {
         if (noSuchRow(row)) {
             return NO_SUCH;
         }
-        if (badWeight(weight)) {
-            return BAD_NUMBER;
-        }
-        if (noTrack()) {
-            return NOT_NOW;
+        int refused = refusal(false, badWeight(weight));
+        if (refused != 0) {
+            return refused;
         }
         if (rows[row].isMissing()) {
             return ROW_MISSING;
@@ -1037,11 +934,9 @@ public final class CoasterDay {
         if (noSuchRow(row)) {
             return NO_SUCH;
         }
-        if (badWeight(weight)) {
-            return BAD_NUMBER;
-        }
-        if (noTrack()) {
-            return NOT_NOW;
+        int refused = refusal(false, badWeight(weight));
+        if (refused != 0) {
+            return refused;
         }
         if (rows[row].isMissing()) {
             return ROW_MISSING;
@@ -1104,6 +999,17 @@ public final class CoasterDay {
 
     private boolean noTrack() {
         return day.track.points() == 0;
+    }
+
+    /** The code by which a call that asks of the TRACK is refused, in the order in which calls tell them; 0: it isn't. */
+    private int refusal(boolean isNoSuch, boolean isBadNumber) {
+        if (isNoSuch) {
+            return NO_SUCH;
+        }
+        if (isBadNumber) {
+            return BAD_NUMBER;
+        }
+        return noTrack() ? NOT_NOW : 0;
     }
 
     // Without a TRACK what is wrong with a POINT, a BLOCK or its bits isn't looked at.
