@@ -66,28 +66,26 @@ public final class CoasterDay {
         if (what == 1 && noTrack()) {
             return NOT_NOW;
         }
-        int told = what == 0 ? readTrack(n) : readRules(n);
-        tape.empty();
-        return told;
-    }
-
-    private int readTrack(int n) {
         tape.begin(n);
-        trackReader.read(tape, newTrack);
+        if (what == 0) {
+            trackReader.read(tape, newTrack);
+        } else {
+            ruleReader.read(tape, day.track.blocks(), newRules);
+        }
+        tape.empty();
         if (!tape.isSound()) {
             return FAULT_BASE - tape.faultKind();
         }
+        return what == 0 ? tellTrack() : tellRules();
+    }
+
+    private int tellTrack() {
         day.tellTrack(newTrack);
         ride.forget();
         return newTrack.points();
     }
 
-    private int readRules(int n) {
-        tape.begin(n);
-        ruleReader.read(tape, day.track.blocks(), newRules);
-        if (!tape.isSound()) {
-            return FAULT_BASE - tape.faultKind();
-        }
+    private int tellRules() {
         day.rules.copyFrom(newRules);
         return newRules.size();
     }
@@ -108,7 +106,7 @@ public final class CoasterDay {
         if (refused != 0) {
             return refused;
         }
-        ride.pass(day.track, lossIn(weight, wind, cold));
+        passBy(weight, wind, cold);
         return ride.tell(what);
     }
 
@@ -117,7 +115,7 @@ public final class CoasterDay {
         if (refused != 0) {
             return refused;
         }
-        passInCalm(weight);
+        passBy(weight, 0, 0);
         return ride.firstPaceAt(point);
     }
 
@@ -135,7 +133,7 @@ public final class CoasterDay {
         if (refused != 0) {
             return refused;
         }
-        passInCalm(weight);
+        passBy(weight, 0, 0);
         return feltNow(point, seat);
     }
 
@@ -144,7 +142,7 @@ public final class CoasterDay {
         if (refused != 0) {
             return refused;
         }
-        passInCalm(weight);
+        passBy(weight, 0, 0);
         int best = NOT_FELT;
         for (int p = 1; p < day.track.points() - 1; p++) {
             int here = feltNow(p, seat);
@@ -223,7 +221,7 @@ public final class CoasterDay {
 
     /** Puts TIMES of a WEIGHT into blockTimes; false: there are none. */
     private boolean takeTimes(int weight) {
-        passInCalm(weight);
+        passBy(weight, 0, 0);
         if (!ride.isOut()) {
             return false;
         }
@@ -542,8 +540,8 @@ public final class CoasterDay {
             return refused;
         }
         int loss = lossIn(weight, 0, 0);
-        for (int pace = 0; pace <= 999; pace++) {
-            ride.passFrom(day.track, loss, point, pace);
+        for (int pace = 0; pace <= 999; pace += Math.max(1, ride.slack())) {
+            ride.go(day.track, loss, point, pace);
             if (ride.isOut()) {
                 return pace;
             }
@@ -599,7 +597,7 @@ public final class CoasterDay {
         if (refused != 0) {
             return refused;
         }
-        passInCalm(weight);
+        passBy(weight, 0, 0);
         int comes = ride.firstTicksAt(point);
         return comes == NONE ? NONE : nearOnes(comes, n, beat, first, every, near);
     }
@@ -631,7 +629,7 @@ public final class CoasterDay {
         if (refused != 0) {
             return refused;
         }
-        passInCalm(weight);
+        passBy(weight, 0, 0);
         int comes = ride.firstTicksAt(point);
         for (int beat = 1; beat <= MOST_BEAT && comes != NONE; beat++) {
             if (nearOnes(comes, n, beat, first, every, near) == 0) {
@@ -871,7 +869,7 @@ public final class CoasterDay {
         if (refused != 0) {
             return refused;
         }
-        ride.passSlipping(day.track, lossIn(weight, 0, 0), day.stretch(0) / 1000, day.stretch(1) / 1000);
+        ride.goSlipping(day.track, lossIn(weight, 0, 0), day.stretch(0) / 1000, day.stretch(1) / 1000);
         return ride.tell(what);
     }
 
@@ -945,7 +943,7 @@ public final class CoasterDay {
         if (rows[row].size() < points) {
             return ROW_SHORT;
         }
-        passInCalm(weight);
+        passBy(weight, 0, 0);
         for (int p = 0; p < points; p++) {
             rows[row].put(p, Math.max(0, ride.firstPaceAt(p)));
         }
@@ -1085,8 +1083,8 @@ public final class CoasterDay {
         return weight < 1 ? 0 : 10 * drag / weight;
     }
 
-    private void passInCalm(int weight) {
-        ride.pass(day.track, lossIn(weight, 0, 0));
+    private void passBy(int weight, int wind, int cold) {
+        ride.go(day.track, lossIn(weight, wind, cold), 0, day.track.push());
     }
 
     private boolean isOut(int weight, int wind, int cold) {
@@ -1103,11 +1101,15 @@ public final class CoasterDay {
         private static final int BAD = 4;
 
         private final int[] bytes = new int[MOST_BYTES];
+        private final int[] kinds = new int[MOST_BYTES + 1];
+        private final int[] places = new int[MOST_BYTES + 1];
+        private final int[] values = new int[MOST_BYTES + 1];
         private int held;
         private int length;
-        private int next;
-        private int place;
+        private int size;
+        private int at;
         private int kind = END;
+        private int place;
         private int value;
         private int faultKind;
         private int faultPlace = NONE;
@@ -1133,12 +1135,76 @@ public final class CoasterDay {
             held = 0;
         }
 
+        /** Takes the first n bytes apart; the last TOKEN is the end, or where none begins. */
         void begin(int n) {
             length = Math.max(0, Math.min(n, held));
-            next = 0;
+            size = 0;
+            int next = 0;
+            for (int k = 0; k <= length && next != NONE; k++) {
+                next = scan(skipBlanks(next));
+            }
+            at = NONE;
             faultKind = 0;
             faultPlace = NONE;
             advance();
+        }
+
+        private int skipBlanks(int from) {
+            int next = from;
+            while (next < length && isBlank(byteAt(next))) {
+                next++;
+            }
+            return next;
+        }
+
+        /** Keeps the TOKEN that begins there: the place behind it; NONE: it is the last one. */
+        private int scan(int from) {
+            int sign = byteAt(from);
+            if (from >= length) {
+                return put(END, length, 0, NONE);
+            }
+            if (isLetter(sign)) {
+                return scanWord(from);
+            }
+            if (isDigit(sign)) {
+                return scanNumber(from);
+            }
+            if (sign == ';' || sign == '(' || sign == ')') {
+                return put(SIGN, from, sign, from + 1);
+            }
+            return put(BAD, from, 0, NONE);
+        }
+
+        /** The value of a word is its length. */
+        private int scanWord(int from) {
+            int behind = from;
+            while (behind < length && isLetter(byteAt(behind))) {
+                behind++;
+            }
+            return put(WORD, from, behind - from, behind);
+        }
+
+        private int scanNumber(int from) {
+            int behind = from;
+            int number = 0;
+            while (behind < length && isDigit(byteAt(behind))) {
+                if (behind - from == 3) {
+                    return put(BAD, from, 0, NONE);
+                }
+                number = 10 * number + byteAt(behind) - '0';
+                behind++;
+            }
+            return put(NUMBER, from, number, behind);
+        }
+
+        private int put(int newKind, int newPlace, int newValue, int behind) {
+            if (size >= 0 && size < kinds.length && size < places.length && size < values.length) {
+                kinds[size] = newKind;
+                places[size] = newPlace;
+                values[size] = newValue;
+                size++;
+            }
+            return behind;
         }
 
         int faultKind() {
@@ -1166,7 +1232,7 @@ public final class CoasterDay {
         }
 
         boolean isWord(String word) {
-            if (kind != WORD || next - place != word.length()) {
+            if (kind != WORD || value != word.length()) {
                 return false;
             }
             for (int k = 0; k < word.length(); k++) {
@@ -1221,49 +1287,20 @@ public final class CoasterDay {
             return taken;
         }
 
+        /** Goes on to the next TOKEN; at the last one, and with a FAULT, it stays. */
         void advance() {
-            if (!isSound()) {
+            int next = at + 1;
+            boolean isThere = next >= 0 && next < size && next < kinds.length;
+            if (!isThere || next >= places.length || next >= values.length || faultKind != 0) {
                 return;
             }
-            while (next < length && isBlank(byteAt(next))) {
-                next++;
-            }
-            place = next;
-            if (next >= length) {
-                kind = END;
-                return;
-            }
-            int sign = byteAt(next);
-            if (isLetter(sign)) {
-                readWord();
-            } else if (isDigit(sign)) {
-                readNumber();
-            } else if (sign == ';' || sign == '(' || sign == ')') {
-                kind = SIGN;
-                value = sign;
-                next++;
-            } else {
-                fail(1);
-            }
-        }
-
-        private void readWord() {
-            kind = WORD;
-            while (next < length && isLetter(byteAt(next))) {
-                next++;
-            }
-        }
-
-        private void readNumber() {
-            kind = NUMBER;
-            value = 0;
-            while (next < length && isDigit(byteAt(next))) {
-                if (next - place == 3) {
-                    fail(1);
-                    return;
-                }
-                value = 10 * value + byteAt(next) - '0';
-                next++;
+            at = next;
+            kind = kinds[next];
+            place = places[next];
+            value = values[next];
+            if (kind == BAD) {
+                faultKind = 1;
+                faultPlace = place;
             }
         }
 
@@ -1847,7 +1884,8 @@ public final class CoasterDay {
 
         private final int[] firstPace = new int[MOST_POINTS];
         private final int[] firstTicks = new int[MOST_POINTS];
-        private final int[] pulls = new int[2];
+        /** By how much each chain is slower than it was told. */
+        private final int[] chainSlips = new int[2];
         private final int[] ticksByLoss = new int[MOST_LOSS + 1];
         private int end;
         private int ticks;
@@ -1856,6 +1894,8 @@ public final class CoasterDay {
         private int pace;
         private int top;
         private int far;
+        private int slack;
+        private boolean isPulled;
         private boolean forth;
         private boolean hasTurnedHere;
 
@@ -1870,80 +1910,74 @@ public final class CoasterDay {
 
         /** TICKS of a RUN that is OUT, else NONE; kept, as nothing but the TRACK and LOSS tells them. */
         int ticksIfOut(Track track, int loss) {
-            if (loss < 0 || loss >= ticksByLoss.length) {
-                pass(track, loss);
-                return isOut() ? ticks : NONE;
+            boolean isKept = loss >= 0 && loss < ticksByLoss.length;
+            if (isKept && ticksByLoss[loss] != UNKNOWN) {
+                return ticksByLoss[loss];
             }
-            if (ticksByLoss[loss] == UNKNOWN) {
-                pass(track, loss);
-                ticksByLoss[loss] = isOut() ? ticks : NONE;
+            go(track, loss, 0, track.push());
+            int told = isOut() ? ticks : NONE;
+            if (isKept) {
+                ticksByLoss[loss] = told;
             }
-            return ticksByLoss[loss];
+            return told;
         }
 
-        void pass(Track track, int loss) {
-            passSlipping(track, loss, 0, 0);
+        void goSlipping(Track track, int loss, int firstSlip, int secondSlip) {
+            chainSlips[0] = firstSlip;
+            chainSlips[1] = secondSlip;
+            go(track, loss, 0, track.push());
+            Arrays.fill(chainSlips, 0);
         }
 
-        void passSlipping(Track track, int loss, int firstSlip, int secondSlip) {
-            pulls[0] = Math.max(0, track.chainPace(0) - firstSlip);
-            pulls[1] = Math.max(0, track.chainPace(1) - secondSlip);
-            travel(track, loss, 0, track.push());
-        }
-
-        void passFrom(Track track, int loss, int from, int startPace) {
-            pulls[0] = track.chainPace(0);
-            pulls[1] = track.chainPace(1);
-            travel(track, loss, from, startPace);
-        }
-
-        private void travel(Track track, int loss, int from, int startPace) {
+        void go(Track track, int loss, int from, int startPace) {
             int last = track.points() - 1;
             end = GOING;
-            ticks = 0;
             turns = 0;
             top = 0;
             far = NONE;
+            slack = MOST_PACE + 1;
+            isPulled = false;
             forth = true;
-            arrive(from, startPace);
+            arrive(from, startPace, 0);
             for (int step = 0; step < MOST_STEPS && end == GOING && at < last; step++) {
-                if (forth) {
-                    stepForth(track, loss);
-                } else {
-                    stepBack(track, loss);
-                }
+                step(track, loss);
             }
             if (end == GOING) {
                 end = at >= last ? OUT : STUCK;
             }
         }
 
-        private void stepForth(Track track, int loss) {
+        private void step(Track track, int loss) {
             int chain = track.chainAt(at);
-            if (chain >= 0 && chain < pulls.length) {
-                moveTo(at + 1, pulls[chain]);
-            } else {
-                roll(track, loss, at + 1);
-            }
-        }
-
-        private void stepBack(Track track, int loss) {
-            if (track.hasDogAt(at)) {
+            if (!forth && track.hasDogAt(at)) {
                 end = HELD;
-            } else if (at == 0 || track.chainAt(at) != NONE) {
+                return;
+            }
+            if (!forth && (at == 0 || chain != NONE)) {
+                turn();
+                return;
+            }
+            int to = forth ? at + 1 : at - 1;
+            int gained = pace + 10 * (track.height(at) - track.height(to)) - loss;
+            int next = chain == NONE ? gained : pulledPace(track, chain);
+            isPulled |= chain != NONE;
+            if (next < 0) {
+                slack = isPulled ? slack : Math.min(slack, -next);
                 turn();
             } else {
-                roll(track, loss, at - 1);
+                int capped = Math.min(next, MOST_PACE);
+                arrive(to, capped, ticks + ticksAt(capped));
             }
         }
 
-        private void roll(Track track, int loss, int to) {
-            int gained = pace + 10 * (track.height(at) - track.height(to)) - loss;
-            if (gained < 0) {
-                turn();
-            } else {
-                moveTo(to, Math.min(gained, MOST_PACE));
-            }
+        private static int ticksAt(int newPace) {
+            int slowness = 4 + newPace;
+            return slowness < 1 ? 1 : 1 + 40 / slowness;
+        }
+
+        private int pulledPace(Track track, int chain) {
+            int slip = chain < 0 || chain >= chainSlips.length ? 0 : chainSlips[chain];
+            return Math.max(0, track.chainPace(chain) - slip);
         }
 
         private void turn() {
@@ -1955,26 +1989,30 @@ public final class CoasterDay {
             hasTurnedHere = true;
         }
 
-        private void moveTo(int to, int newPace) {
-            int slowness = 4 + newPace;
-            ticks += slowness > 0 ? 1 + 40 / slowness : 1;
-            arrive(to, newPace);
-        }
-
-        private void arrive(int to, int newPace) {
+        private void arrive(int to, int newPace, int newTicks) {
             at = to;
             pace = newPace;
+            ticks = newTicks;
             top = Math.max(top, newPace);
+            slack = isPulled ? slack : Math.min(slack, MOST_PACE + 1 - newPace);
             hasTurnedHere = false;
             if (to > far && to < firstPace.length && to < firstTicks.length) {
                 far = to;
                 firstPace[to] = newPace;
-                firstTicks[to] = ticks;
+                firstTicks[to] = newTicks;
             }
         }
 
         boolean isOut() {
             return end == OUT;
+        }
+
+        /**
+         * How much greater SPEED at the start must be for the latest RUN to go another way: till a chain pulls, SPEED is
+         * greater by that all along, and nothing changes as long as each turn stays one and 999 isn't passed.
+         */
+        int slack() {
+            return slack;
         }
 
         int tell(int what) {
