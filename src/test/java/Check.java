@@ -30,9 +30,15 @@ final class Check {
     /** Feeds a text, filled up with blanks to twenty bytes a call; answers its length. */
     static int feed(CoasterDay x, String text) {
         for (int at = 0; at < text.length(); at += 20) {
-            x.feed(four(text, at), four(text, at + 4), four(text, at + 8), four(text, at + 12), four(text, at + 16));
+            int[] v = twenty(text, at);
+            x.feed(v[0], v[1], v[2], v[3], v[4]);
         }
         return text.length();
+    }
+
+    /** Twenty bytes of a text as feed() takes them, blanks behind its end. */
+    static int[] twenty(String text, int at) {
+        return new int[] {four(text, at), four(text, at + 4), four(text, at + 8), four(text, at + 12), four(text, at + 16)};
     }
 
     private static int four(String text, int at) {
