@@ -113,6 +113,7 @@ public final class EdgesTextTest {
         CoasterDay x = new CoasterDay();
         Check.due("10 and 32", Check.tell(x, 0, "high\n1\n 2\n;\n"), 2);
         for (int sign = 0; sign < 256; sign++) {
+            x = sign % 16 == 0 ? new CoasterDay() : x;
             boolean isBlank = sign == 10 || sign == 32;
             boolean begins = sign >= 'a' && sign <= 'z' || sign >= '0' && sign <= '9' || sign == ';' || sign == '(' || sign == ')';
             if (!isBlank) {
@@ -125,12 +126,12 @@ public final class EdgesTextTest {
     /** In place of each word one that has another letter, one letter less, one more. */
     private static void lettersOfWords() {
         Check.promise("3 the words of LINES and RULES");
-        CoasterDay x = Check.on("high 1 2 3;block 1;");
         String track = "high 1 2 3;block 1;chain 0 to 1 speed 5;dog 0 to 1;drag 1;push 1;";
         String rule = "leave 0 if not free 0 and (free 1 or free 0);";
         for (int what = 0; what < 2; what++) {
             String whole = what == 0 ? track : rule;
             for (int at = 0; at < whole.length(); at++) {
+                CoasterDay x = Check.on("high 1 2 3;block 1;");
                 int from = at;
                 while (from > 0 && Character.isLetter(whole.charAt(from - 1))) {
                     from--;
@@ -142,7 +143,7 @@ public final class EdgesTextTest {
                     Check.faulty(x, what, whole.substring(0, at) + "H" + whole.substring(at + 1), at > from ? 2 : 1, from);
                 }
             }
-            Check.due("as it is", Check.tell(x, what, whole), what == 0 ? 3 : 1);
+            Check.due("as it is", Check.tell(Check.on("high 1 2 3;block 1;"), what, whole), what == 0 ? 3 : 1);
         }
     }
 
@@ -299,6 +300,7 @@ public final class EdgesTextTest {
         CoasterDay x = new CoasterDay();
         String whole = "high 1 2;chain 0 to 1 speed 5;dog 0 to 1;block 1;drag 1;push 1;";
         for (int n = 1; n < whole.length(); n++) {
+            x = n % 32 == 0 ? new CoasterDay() : x;
             boolean isWhole = whole.charAt(n - 1) == ';';
             Check.feed(x, whole);
             int told = x.text(0, n);

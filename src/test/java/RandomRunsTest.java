@@ -5,7 +5,8 @@ import java.util.Random;
  * each run is the same each time. The first argument, if any, tells how many runs.
  */
 public final class RandomRunsTest {
-    private static final int CALLS = 400;
+    /** An object is used for at most 512 calls: a text takes up to 24 of them, and 16 stand at the end. */
+    private static final int CALLS = 470;
     private static int wrong = 0;
     private static long made = 0;
 
@@ -35,7 +36,7 @@ public final class RandomRunsTest {
     }
 
     public static void main(String[] args) {
-        int runs = args.length > 0 ? Integer.parseInt(args[0]) : 150;
+        int runs = args.length > 0 ? Integer.parseInt(args[0]) : 200;
         int from = args.length > 1 ? Integer.parseInt(args[1]) : 0;
         for (int seed = from; seed < from + runs && wrong < 5; seed++) {
             new RandomRunsTest(seed).go();
@@ -48,10 +49,11 @@ public final class RandomRunsTest {
 
     private void go() {
         int before = wrong;
+        long begun = made;
         if (chance(90)) {
             tell(0, track());
         }
-        for (int k = 0; k < CALLS - 40 && wrong == before; k++) {
+        while (made - begun < CALLS && wrong == before) {
             if (chance(tells)) {
                 tell(0, chance(30) ? spoil(track()) : track());
             } else if (chance(4)) {

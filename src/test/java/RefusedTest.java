@@ -14,7 +14,7 @@ public final class RefusedTest {
     private static final int NOT_NOW = -5;
     private static final int MISSING = -6;
     private static final int TOO_FEW = -7;
-    private static final int MOST_CALLS = 100;
+    private static final int MOST_CALLS = 90;
 
     /** An argument: a usual value, all else that is taken at the edges, what is refused, and by which code. */
     private record Argument(int code, long usual, long[] taken, long[] refused) {

@@ -179,7 +179,8 @@ enum Situation {
         for (int what = 0; what <= 15; what++) {
             all.add((long) x.count(what));
         }
-        for (int p = 0; p < x.count(0); p++) {
+        int points = x.count(0);
+        for (int p = 0; p < points; p++) {
             all.add((long) x.point(p, 0));
             all.add((long) x.point(p, 1));
         }
@@ -187,8 +188,9 @@ enum Situation {
             all.add((long) x.run(20, 0, 0, what));
             all.add((long) x.stretched(20, what));
         }
-        for (int b = 0; b < x.count(1); b++) {
-            all.add((long) x.leaves((1 << x.count(1)) - 1, b));
+        int blocks = x.count(1);
+        for (int b = 0; b < blocks; b++) {
+            all.add((long) x.leaves((1 << blocks) - 1, b));
             all.add((long) x.leaves(1 << b, b));
         }
         for (int chain = 0; chain < 2; chain++) {
@@ -213,7 +215,8 @@ enum Situation {
         all.add((long) x.bare());
         all.add((long) x.foretold(9, true));
         all.add((long) x.foretold(9, false));
-        for (int p = 0; p < x.count(0); p++) {
+        int points = x.count(0);
+        for (int p = 0; p < points; p++) {
             all.add((long) x.walk(p, 1));
         }
         for (int k = 0; k < 12; k++) {
@@ -257,7 +260,8 @@ enum Situation {
         all.add((long) x.fault(0));
         all.add((long) x.fault(1));
         all.add((long) x.count(5));
-        for (int p = 0; p < x.count(0); p++) {
+        int points = x.count(0);
+        for (int p = 0; p < points; p++) {
             all.add((long) x.point(p, 0));
         }
     }
