@@ -32,6 +32,13 @@ public final class LanguageTest {
         "throw", "throws", "try", "catch", "finally", "synchronized", "assert", "->", "::", "new Object", "Exact", "System.out",
         "java.util.Random", "Thread", "nanoTime", "currentTimeMillis", "@Override", "protected", "NaN"};
 
+    private static final Pattern LIBRARY = Pattern.compile(
+        "\\b(Math|Integer|Long|Arrays|System|String|StringBuilder|List|ArrayList|Character|Objects|Collections)\\.(\\w+)");
+    private static final Set<String> ALLOWED = Set.of(
+        "Math.abs", "Math.max", "Math.min", "Math.floorDiv", "Math.floorMod", "Integer.bitCount", "Integer.compare",
+        "Integer.lowestOneBit", "Integer.numberOfTrailingZeros", "Long.bitCount", "Long.compare", "Arrays.copyOf",
+        "Arrays.copyOfRange", "Arrays.fill", "List.of", "System.arraycopy");
+
     public static void main(String[] args) throws IOException {
         face();
         ownMethods();
@@ -105,6 +112,10 @@ public final class LanguageTest {
                     String asWord = b.matches("\\w+") ? "\\b" + b + "\\b" : Pattern.quote(b);
                     Check.due("line " + (k + 1) + " has " + b, Pattern.compile(asWord).matcher(code).find() ? 1 : 0, 0);
                 }
+            }
+            Matcher called = LIBRARY.matcher(line.startsWith("import") ? "" : code);
+            while (called.find()) {
+                Check.due("line " + (k + 1) + " calls " + called.group(), ALLOWED.contains(called.group()) ? 1 : 0, 1);
             }
             if (line.startsWith("import")) {
                 Check.due(line, line.matches("import java\\.util\\.(Arrays|ArrayList|List|Iterator);") ? 1 : 0, 1);
